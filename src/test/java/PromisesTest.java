@@ -606,6 +606,24 @@ public final class PromisesTest {
         TenArrows y = lined("A29099L110L120");
         due("step(11), OFF is 11", 0, y.step(11));
         due("step(10), OFF is 11", NONE, y.step(10));
+        // Eight times ASLANT 2: 32 less, each 2 more when stepped
+        TenArrows z = lined("A25055L120L120L120L120L120L120L120L120");
+        due("step(31): one of eight", 1, z.step(31));
+        due("step(18): seven of eight", 127, z.step(18));
+        due("step(16): all eight", 255, z.step(16));
+        due("step(15)", NONE, z.step(15));
+        // ROUND, LEVEL and STEPPED ones are not to be stepped
+        TenArrows w = lined("A25055L330L120L050L230");
+        due("step(12)", 2, w.step(12));
+        due("step(11)", 2, w.step(11));
+        due("step(10)", NONE, w.step(10));
+        // STRETCH 2: each STAGE AHEAD counts once, those laid do not
+        TenArrows v = lined("A27055L000L130L000");
+        v.lay();
+        due("step(5) behind a stage", 0, v.step(5));
+        due("step(4) behind a stage", 2, v.step(4));
+        due("step(1) behind a stage", 2, v.step(1));
+        due("step(0) behind a stage", NONE, v.step(0));
     }
 
     private static void share() {
@@ -672,6 +690,9 @@ public final class PromisesTest {
         for (int far : FAR) {
             due("where far", UNKNOWN, x.where(far, true));
         }
+        TenArrows w = lined("A25055L001");
+        w.lay();
+        dueWhere(w, 0, 1, 1);
         TenArrows y = lined("A25055L000L005");
         y.lay();
         due("where: no gorse", LATE, y.where(0, true));
@@ -698,6 +719,13 @@ public final class PromisesTest {
         y.lay();
         due("back(1) over bare ground", 2, y.back(1));
         due("back(10) over bare ground", 2, y.back(10));
+        TenArrows w = lined("A25055L001L009L009");
+        w.lay();
+        due("back(1) of one tenth of gorse", 1, w.back(1));
+        w.lay();
+        w.lay();
+        due("back(9): 18 of 19", 2, w.back(9));
+        due("back(10): 19 of 19", 3, w.back(10));
         TenArrows z = lined("A25055L000L005");
         z.lay();
         due("back: no gorse", LATE, z.back(5));
@@ -843,6 +871,9 @@ public final class PromisesTest {
         dueRests(y, 6, 3, 24);
         TenArrows z = lined("A26055L000L000L000L000L000L000");
         dueRests(z, 6, 3, 2);
+        // OFF 30 less: each mends all it can
+        TenArrows w = lined("A25000L000L000L000L000L000L000");
+        dueRests(w, 6, 1, 44);
     }
 
     private static void chance() {
