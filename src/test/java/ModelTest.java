@@ -4,8 +4,10 @@ import java.util.Random;
 
 /** Random runs of calls, by fixed seeds, on the program and on the model: every answer must be the same. */
 public final class ModelTest {
-    private static final int RUNS = 6000;
-    private static final int CALLS = 160;
+    private static final int RUNS = 10000;
+    /** So many calls one step of a run may take, a whole text among them, and the comparison at its end. */
+    private static final int STEP_CALLS = 60;
+    private static final int END_CALLS = 60;
     private static final int[] FAR = {Integer.MIN_VALUE, Integer.MAX_VALUE, -10, -2, 10, 100, 256};
 
     private final Checks checks;
@@ -13,6 +15,7 @@ public final class ModelTest {
     private final TenArrows program = new TenArrows();
     private final Model model = new Model();
     private final List<String> told = new ArrayList<>();
+    private int calls = 0;
 
     private ModelTest(Checks checks, long seed) {
         this.checks = checks;
@@ -31,27 +34,43 @@ public final class ModelTest {
         if (random.nextInt(10) > 0) {
             spell(anyLine());
         }
-        for (int call = 0; call < CALLS && checks.allRight(); call++) {
+        // Of an object nothing is promised behind its 512th call.
+        while (calls + STEP_CALLS + END_CALLS <= Script.MOST_CALLS && checks.allRight()) {
             anyCall();
-            compareState();
+            compareSome();
         }
+        compareAll();
+        checks.isTrue("calls of one run: " + calls, calls <= Script.MOST_CALLS);
         if (!checks.allRight()) {
             told.forEach(System.out::println);
         }
     }
 
     private void same(String call, long got, long want) {
+        calls++;
         told.add(call + " = " + got);
         checks.due(call, want, got);
     }
 
-    private void compareState() {
+    private void compareSome() {
+        int what = random.nextInt(15);
+        int stage = random.nextInt(8);
+        same("about(" + what + ")", program.about(what), model.about(what));
+        same("stage(" + stage + ", 3)", program.stage(stage, 3), model.stage(stage, 3));
+    }
+
+    private void compareAll() {
         for (int what = 0; what <= 14; what++) {
-            checks.due("about(" + what + ")", model.about(what), program.about(what));
+            same("about(" + what + ")", program.about(what), model.about(what));
         }
         for (int stage = 0; stage < 8; stage++) {
-            checks.due("stage(" + stage + ", 3)", model.stage(stage, 3), program.stage(stage, 3));
+            for (int what = 0; what <= 4; what++) {
+                same("stage(" + stage + ", " + what + ")", program.stage(stage, what), model.stage(stage, what));
+            }
         }
+        same("byBook()", program.byBook(), model.byBook());
+        same("truly()", program.truly(), model.truly());
+        same("seed(0)", program.seed(0), model.seed(0));
     }
 
     private int digit() {

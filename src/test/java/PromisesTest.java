@@ -432,8 +432,8 @@ public final class PromisesTest {
     }
 
     private static void undoEach() {
-        TenArrows x = lined("A25155L112L223L334L445".substring(0, 18));
         for (int act = 0; act < 8; act++) {
+            TenArrows x = lined("A25155L112L223L334");
             x.lay();
             x.lose();
             x.knot();
@@ -443,7 +443,6 @@ public final class PromisesTest {
             checks.isTrue("act " + act + " shows", !before.equals(whole(x)));
             due("undo act " + act, acts, x.undo());
             checks.isTrue("undo of act " + act, before.equals(whole(x)));
-            x.line();
         }
     }
 

@@ -19,13 +19,13 @@ public final class RoomTest {
         // A room has 600,000 objects and 7.3 million cells: more than 10,000 objects of the face fit in.
         checks.isTrue("objects of one: " + seen.size(), seen.size() <= 40);
         checks.isTrue("cells of one: " + cells, cells <= 600);
-        TenArrows x = new TenArrows();
         for (int i = 0; i < WARM; i++) {
-            allCalls(x);
+            allCalls(new TenArrows());
         }
         var threads = (com.sun.management.ThreadMXBean) ManagementFactory.getThreadMXBean();
         long least = Long.MAX_VALUE;
         for (int i = 0; i < WARM; i++) {
+            TenArrows x = new TenArrows();
             long before = threads.getCurrentThreadAllocatedBytes();
             long between = threads.getCurrentThreadAllocatedBytes();
             allCalls(x);
