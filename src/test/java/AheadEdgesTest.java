@@ -326,6 +326,12 @@ public final class AheadEdgesTest extends Edges {
         dueEach("'A25055L000L009' line() lay()", "where(1,true)=-1 where(2,true)=-1 where(-1,true)=-1");
     }
 
+    @Holds(promise = 23, says = "LATE: there is no GORSE on STAGES laid.")
+    static void whereWithOneTenthOfGorseInAll() {
+        dueFraction(Script.played("'A25055L001' line() lay()"), "where(0", 1, 1);
+        dueFraction(Script.played("'A25055L000L001' line() lay()*2"), "where(0", 0, 1);
+    }
+
     @Holds(promise = 23, says = "at each as likely as its GORSE to the others'")
     static void whereNoGorseIsAmongGorse() {
         TenArrows x = Script.played("'A25055L000L009' line() lay()*2");
@@ -375,6 +381,11 @@ public final class AheadEdgesTest extends Edges {
     @Holds(promise = 24, says = "Of several what is told first.")
     static void backIsBadBeforeItIsLate() {
         dueEach("", "back(0)=-2 back(11)=-2 back(-2147483648)=-2");
+    }
+
+    @Holds(promise = 24, says = "LATE: there is no GORSE on STAGES laid.")
+    static void backWithOneTenthOfGorseInAll() {
+        dueEach("'A25055L001L000' line() lay()", "back(1)=1 back(10)=1 lay()=20000 back(1)=2 back(10)=2");
     }
 
     @Holds(promise = 24, says = "so that it is there with x tenths or more")

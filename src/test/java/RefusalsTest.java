@@ -20,7 +20,8 @@ public final class RefusalsTest extends Edges {
     private static final String CROWDED = "'A29964L001L102L203L304' line() lay() lose() lay() keep(0) lay() keep(1) "
         + "stretch(2) stretch(3) doubled()*5 change()*9 test(1,2)*3 test(3,-4)*3 seed(123456789) "
         + "write(76) write(49)*17 ";
-    private static final String[] STATES = {NEW, BARE, FRESH, MIDST, END, SPENT, CROWDED};
+    /** States that stand at an edge. */
+    static final String[] STATES = {NEW, BARE, FRESH, MIDST, END, SPENT, CROWDED};
     private static final int[] FAR_OFF = {Integer.MIN_VALUE, -1000, 1000, Integer.MAX_VALUE};
 
     private final List<Refusal> all = new ArrayList<>();

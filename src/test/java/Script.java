@@ -1,6 +1,8 @@
 import java.lang.reflect.Method;
 import java.util.ArrayList;
+import java.util.HashMap;
 import java.util.List;
+import java.util.Map;
 
 /**
  * Calls told as a text, so that the same ones can be made on new objects again and again, of the program and of the
@@ -9,6 +11,8 @@ import java.util.List;
 final class Script {
     /** Nothing is promised of an object behind so many calls. */
     static final int MOST_CALLS = 512;
+
+    private static final Map<Class<?>, Map<String, Method>> METHODS = new HashMap<>();
 
     private Script() { }
 
@@ -48,12 +52,19 @@ final class Script {
     }
 
     private static Method methodOf(Class<?> of, String name) {
-        for (Method method : of.getDeclaredMethods()) {
-            if (method.getName().equals(name)) {
-                return method;
-            }
+        Method method = METHODS.computeIfAbsent(of, Script::methodsOf).get(name);
+        if (method == null) {
+            throw new IllegalStateException("no call " + name);
         }
-        throw new IllegalStateException("no call " + name);
+        return method;
+    }
+
+    private static Map<String, Method> methodsOf(Class<?> of) {
+        Map<String, Method> methods = new HashMap<>();
+        for (Method method : of.getDeclaredMethods()) {
+            methods.put(method.getName(), method);
+        }
+        return methods;
     }
 
     private static Object argumentOf(Class<?> type, String told) {

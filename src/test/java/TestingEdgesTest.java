@@ -90,6 +90,12 @@ public final class TestingEdgesTest extends Edges {
         dueChanges("test(5,1) test(6,2)", 0, NONE, NONE);
     }
 
+    @Holds(promise = 29, says = "NONE (of the latter two): there are none.")
+    static void changesWhenThereAreNoneAnyMore() {
+        dueEach("test(4,1)", "changes(0)=5 changes(1)=51 changes(2)=31 test(4,2)=2 changes(2)=-9 changes(1)=-9 changes(0)=0 "
+            + "untest()=2 changes(2)=511 changes(1)=41 changes(0)=171");
+    }
+
     @Holds(promise = 29, says = "so that it was as told in THE LINE ahead of that STAGE, the other from it on")
     static void changesFromTheFirstStageOn() {
         dueChanges("test(0,-9)", 1, 41, 1);
