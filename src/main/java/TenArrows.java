@@ -488,6 +488,7 @@ public final class TenArrows {
         private final int[] kinds = new int[MOST_STAGES];
         private final int[] values = new int[MOST_STAGES];
         private final int[] gorse = new int[MOST_STAGES];
+        private final int[] grounds = new int[MOST_STAGES];
 
         /** Takes a text without FAULT. */
         void read(Text text) {
@@ -502,6 +503,8 @@ public final class TenArrows {
                 kinds[stage] = text.digitAt(at + 1);
                 values[stage] = text.digitAt(at + 2);
                 gorse[stage] = text.digitAt(at + 3);
+                // Worked out here, once, so that the calls that ask for it go less deep.
+                grounds[stage] = errorOfGround(kinds[stage], values[stage]);
             }
         }
 
@@ -526,12 +529,14 @@ public final class TenArrows {
         }
 
         int groundAt(int stage) {
-            return groundAs(kindOf(stage), stage);
+            return has(stage) ? grounds[stage] : 0;
         }
 
-        /** What the GROUND of a STAGE would make if it were of that KIND. */
-        int groundAs(int kind, int stage) {
-            int v = valueOf(stage);
+        int groundIfStepped(int stage) {
+            return errorOfGround(STEPPED, valueOf(stage));
+        }
+
+        private static int errorOfGround(int kind, int v) {
             switch (kind) {
                 case ASLANT: return -v * v;
                 case STEPPED: return -v;
@@ -884,7 +889,7 @@ public final class TenArrows {
             int more = 0;
             for (int stage = now.place; stage < land.stages; stage++) {
                 if ((stepped >> stage & 1) == 1) {
-                    more += land.groundAs(STEPPED, stage) - land.groundAt(stage);
+                    more += land.groundIfStepped(stage) - land.groundAt(stage);
                 }
             }
             return more;

@@ -1,16 +1,11 @@
-import java.io.IOException;
 import java.lang.reflect.Constructor;
 import java.lang.reflect.Field;
 import java.lang.reflect.Method;
 import java.lang.reflect.Modifier;
-import java.nio.file.Files;
-import java.nio.file.Path;
 import java.util.Set;
 import java.util.TreeSet;
-import java.util.regex.Matcher;
-import java.util.regex.Pattern;
 
-/** The face of the document, and those rules of LANGUAGE.md that can be read off the class or its source. */
+/** The face of the document, as the compiled class shows it. */
 public final class FaceTest {
     private static final Set<String> METHODS = Set.of(
         "int write(int)", "int wipe()", "int fault()", "int line()", "int about(int)", "int stage(int,int)",
@@ -21,16 +16,12 @@ public final class FaceTest {
         "int rests(int,int)", "int chance(int,int,boolean)", "long seed(long)", "int days(int)", "int keep(int)",
         "int again(int)");
     private static final Set<String> FIELDS = Set.of("UNKNOWN", "BAD", "LATE", "FULL", "NONE");
-    private static final String[] FORBIDDEN = {
-        "throw", "throws", "try", "catch", "finally", "synchronized", "assert", "volatile", "native",
-        "package", "Exception", "Error", "Random", "Thread", "Object"};
 
     private static final Checks checks = new Checks();
 
-    public static void main(String[] args) throws IOException {
+    public static void main(String[] args) {
         face();
         nested();
-        source(Files.readString(Path.of(System.getProperty("program", "src/main/java/TenArrows.java"))));
         checks.finish("FaceTest");
     }
 
@@ -104,23 +95,5 @@ public final class FaceTest {
             }
             checks.isTrue("some twenty fields: " + one, fields <= 20);
         }
-    }
-
-    private static void source(String whole) {
-        String code = whole.replaceAll("(?s)/\\*.*?\\*/", "").replaceAll("//[^\n]*", "");
-        for (String word : FORBIDDEN) {
-            checks.isTrue("the word " + word, !Pattern.compile("\\b" + word + "\\b").matcher(code).find());
-        }
-        checks.isTrue("no lambda", !code.contains("->"));
-        checks.isTrue("no method reference", !code.contains("::"));
-        checks.isTrue("signs 1 .. 127", whole.chars().allMatch(c -> c >= 1 && c <= 127));
-        Matcher method = Pattern.compile("(?m)^( +)[^\n=;]*\\) \\{\n(?s:.*?)\n\\1\\}").matcher(code);
-        int methods = 0;
-        while (method.find()) {
-            methods++;
-            long lines = method.group().lines().count();
-            checks.isTrue("some sixty lines: " + method.group().lines().findFirst().orElse(""), lines <= 60);
-        }
-        checks.isTrue("methods were found", methods >= 34);
     }
 }
